@@ -108,14 +108,15 @@ public final class RoofRegatta {
         }
         reader.read(n);
         taped = 0;
-        lastFault = reader.blamed;
-        lastPlace = reader.place;
+        lastFault = reader.token.blamed;
+        lastPlace = reader.token.place;
         if (lastFault != 0) {
             return refused(FAULTY);
         }
         told.become(reader.told);
         now.become(reader.start);
         kept.clear();
+        loads.forget();
         return granted(told.sizes[HOUSES]);
     }
 
@@ -860,42 +861,48 @@ public final class RoofRegatta {
         }
 
         int weightOf(int h) {
-            int tiles = told.kinds[h] == VILLA ? told.tiles[h] / 2 : told.tiles[h];
-            return tiles + sumOf(told.weighs, crews[h]);
+            int weight = told.kinds[h] == VILLA ? told.tiles[h] / 2 : told.tiles[h];
+            for (int l = 0; l < told.sizes[LODGERS]; l++) {
+                if ((crews[h] >> l & 1) == 1) {
+                    weight += told.weighs[l];
+                }
+            }
+            return weight;
         }
 
         int powerOf(int h) {
-            int rows = sumOf(told.rows, crews[h]);
-            boolean twice = told.kinds[h] == TERRACE && Integer.bitCount(crews[h]) >= 2;
-            return water + (twice ? 2 * rows : rows);
-        }
-
-        private static int sumOf(int[] numbers, int bits) {
-            int sum = 0;
-            for (int i = 0; i < numbers.length; i++) {
-                if ((bits >> i & 1) == 1) {
-                    sum += numbers[i];
+            int rows = 0;
+            int rowers = 0;
+            for (int l = 0; l < told.sizes[LODGERS]; l++) {
+                if ((crews[h] >> l & 1) == 1) {
+                    rows += told.rows[l];
+                    rowers++;
                 }
             }
-            return sum;
+            return water + (told.kinds[h] == TERRACE && rowers >= 2 ? 2 * rows : rows);
         }
 
         int timeOn(int h, int k) {
-            boolean outside = told.kinds[h] != PUB && laneOf(h) != told.insides[k];
-            int way = told.lengths[k] + (outside ? 2 : 0);
-            int power = powerOf(h) + ((rainy >> k & 1) == 1 ? told.sizes[BY] : 0);
-            int dry = dividedUp(way * (weightOf(h) + 10), power);
-            return isLit(h) ? dry - dry / 10 : dry;
+            return timeBy(h, k, weightOf(h), powerOf(h));
         }
 
-        private static int dividedUp(int number, int divisor) {
-            return divisor < 1 ? 0 : (number + divisor - 1) / divisor;
+        private int timeBy(int h, int k, int weight, int dryPower) {
+            boolean outside = told.kinds[h] != PUB && laneOf(h) != told.insides[k];
+            int way = told.lengths[k] + (outside ? 2 : 0);
+            int power = dryPower + ((rainy >> k & 1) == 1 ? told.sizes[BY] : 0);
+            if (power < 1) {
+                return 0;
+            }
+            int unlit = (way * (weight + 10) + power - 1) / power;
+            return isLit(h) ? unlit - unlit / 10 : unlit;
         }
 
         int timeBehind(int h, int bend) {
             int sum = told.storeysLost(h) * told.sizes[STOREY];
-            for (int k = 0; k <= bend; k++) {
-                sum += timeOn(h, k);
+            int weight = weightOf(h);
+            int power = powerOf(h);
+            for (int k = 0; k <= bend && k < told.sizes[BENDS]; k++) {
+                sum += timeBy(h, k, weight, power);
             }
             return sum;
         }
@@ -940,12 +947,6 @@ public final class RoofRegatta {
             return count;
         }
 
-        void allAshore() {
-            for (int h = 0; h < crews.length; h++) {
-                crews[h] = 0;
-            }
-        }
-
         boolean fits() {
             for (int h = 0; h < told.sizes[HOUSES]; h++) {
                 if (Integer.bitCount(crews[h]) > told.storeys[h]) {
@@ -953,19 +954,6 @@ public final class RoofRegatta {
                 }
             }
             return true;
-        }
-
-        /** The LOAD behind this one, the last lodger's place changing first; behind the last all ashore. */
-        void nextLoad() {
-            for (int l = told.sizes[LODGERS] - 1; l >= 0; l--) {
-                int place = placeOf(l);
-                int next = place == ASHORE ? 0 : place + 1;
-                if (next < told.sizes[HOUSES]) {
-                    put(l, next);
-                    return;
-                }
-                put(l, ASHORE);
-            }
         }
 
         int movesFrom(Race other) {
@@ -1022,8 +1010,9 @@ public final class RoofRegatta {
         }
 
         private boolean isBefore(int h, int other) {
-            if (isOut(h) != isOut(other)) {
-                return isOut(other);
+            boolean otherOut = isOut(other);
+            if (isOut(h) != otherOut) {
+                return otherOut;
             }
             return totals[h] < totals[other] || totals[h] == totals[other] && h < other;
         }
@@ -1040,15 +1029,22 @@ public final class RoofRegatta {
 
     /** BEST and FRIENDLY LOADS, and what one house gains by whom. */
     private static final class Loads {
+        private static final int UNASKED = -3;
+        private static final int FRIENDLY = -2;
+
         final Told told;
         final Race now;
         final Race trial;
         final Standing standing;
         /** Of each house the TOTAL by who is aboard, so that a LOAD needs no TIMES of its own. */
         final int[][] totals = new int[MOST_HOUSES][1 << MOST_LODGERS];
+        final int[] tried = new int[MOST_LODGERS];
         final int[] places = new int[MOST_LODGERS];
         int score;
         int moves;
+        /** For which house, and in which state, the places were found: the same question is not worked out again. */
+        int foundFor = UNASKED;
+        long foundIn;
 
         Loads(Race now, Race trial, Standing standing) {
             this.told = now.told;
@@ -1057,8 +1053,15 @@ public final class RoofRegatta {
             this.standing = standing;
         }
 
+        void forget() {
+            foundFor = UNASKED;
+        }
+
         /** The score is the RANK then. */
         void findBest(int h) {
+            if (foundFor == h && foundIn == now.packed()) {
+                return;
+            }
             trial.become(now);
             for (int g = 0; g < told.sizes[HOUSES]; g++) {
                 measure(g);
@@ -1069,8 +1072,9 @@ public final class RoofRegatta {
 
         /** The score is how many are TOGETHER then, below 0, so that less is better for either. */
         void findFriendly() {
-            trial.become(now);
-            search(NONE);
+            if (foundFor != FRIENDLY || foundIn != now.packed()) {
+                search(FRIENDLY);
+            }
         }
 
         private void measure(int h) {
@@ -1080,16 +1084,44 @@ public final class RoofRegatta {
             }
         }
 
-        private void search(int h) {
+        private void search(int question) {
+            foundFor = question;
+            foundIn = now.packed();
             score = BEYOND;
             moves = BEYOND;
-            trial.allAshore();
+            allAshore();
             int count = told.countOfLoads();
             for (int i = 0; i < count; i++) {
                 if (trial.fits()) {
-                    compare(h == NONE ? -trial.friendsTogether() : rankByLoad(h));
+                    compare(question == FRIENDLY ? -trial.friendsTogether() : rankByLoad(question));
                 }
-                trial.nextLoad();
+                nextLoad();
+            }
+        }
+
+        private void allAshore() {
+            for (int l = 0; l < tried.length; l++) {
+                tried[l] = ASHORE;
+            }
+            for (int h = 0; h < trial.crews.length; h++) {
+                trial.crews[h] = 0;
+            }
+        }
+
+        /** The last lodger's place changes first, so that LOADS come as the document orders them. */
+        private void nextLoad() {
+            for (int l = told.sizes[LODGERS] - 1; l >= 0; l--) {
+                int place = tried[l];
+                if (place >= 0) {
+                    trial.crews[place] &= ~(1 << l);
+                }
+                int next = place == ASHORE ? 0 : place + 1;
+                if (next < told.sizes[HOUSES]) {
+                    tried[l] = next;
+                    trial.crews[next] |= 1 << l;
+                    return;
+                }
+                tried[l] = ASHORE;
             }
         }
 
@@ -1111,9 +1143,7 @@ public final class RoofRegatta {
             }
             score = found;
             moves = moved;
-            for (int l = 0; l < told.sizes[LODGERS]; l++) {
-                places[l] = trial.placeOf(l);
-            }
+            System.arraycopy(tried, 0, places, 0, MOST_LODGERS);
         }
 
         int leastTime(int h) {
@@ -1259,7 +1289,8 @@ public final class RoofRegatta {
         void findOdds(int h, int r) {
             begin();
             for (int rainy = 0; rainy < 1 << told.sizes[BENDS]; rainy++) {
-                fall(rainy);
+                trial.rainy = rainy;
+                standing.take(trial);
                 if (standing.rankOf(h) == r) {
                     upper += weightOfRain(rainy);
                 }
@@ -1270,7 +1301,8 @@ public final class RoofRegatta {
         void findMean(int h) {
             begin();
             for (int rainy = 0; rainy < 1 << told.sizes[BENDS]; rainy++) {
-                fall(rainy);
+                trial.rainy = rainy;
+                standing.take(trial);
                 upper += weightOfRain(rainy) * standing.totals[h];
             }
             reduce();
@@ -1279,7 +1311,8 @@ public final class RoofRegatta {
         void findHopes(int h) {
             begin();
             for (int rainy = 0; rainy < 1 << told.sizes[BENDS]; rainy++) {
-                fall(rainy);
+                trial.rainy = rainy;
+                standing.take(trial);
                 upper += weightOfRain(rainy) * told.prizeFor(standing.rankOf(h));
             }
             reduce();
@@ -1292,11 +1325,6 @@ public final class RoofRegatta {
             for (int k = 0; k < told.sizes[BENDS]; k++) {
                 lower *= 100;
             }
-        }
-
-        private void fall(int rainy) {
-            trial.rainy = rainy;
-            standing.take(trial);
         }
 
         private long weightOfRain(int rainy) {
@@ -1325,7 +1353,8 @@ public final class RoofRegatta {
             beginRaces(firstSeed);
             int count = 0;
             for (int i = 0; i < n; i++) {
-                raceByDraws();
+                drawRain();
+                standing.take(trial);
                 if (standing.rankOf(h) == 0) {
                     count++;
                 }
@@ -1337,7 +1366,8 @@ public final class RoofRegatta {
             beginRaces(firstSeed);
             int least = BEYOND;
             for (int i = 0; i < n; i++) {
-                raceByDraws();
+                drawRain();
+                standing.take(trial);
                 least = Math.min(least, standing.totals[standing.first]);
             }
             return least;
@@ -1348,15 +1378,14 @@ public final class RoofRegatta {
             seed = firstSeed;
         }
 
-        private void raceByDraws() {
-            int rainy = 0;
+        private void drawRain() {
+            trial.rainy = 0;
             for (int k = 0; k < told.sizes[BENDS]; k++) {
                 seed = (75 * seed + 74) % SEEDS;
                 if (seed % 100 < told.sizes[RAIN]) {
-                    rainy |= 1 << k;
+                    trial.rainy |= 1 << k;
                 }
             }
-            fall(rainy);
         }
     }
 
@@ -1410,7 +1439,7 @@ public final class RoofRegatta {
         }
     }
 
-    /** Cuts a text into TOKENS, one at a time. */
+    /** Cuts a text into TOKENS, one at a time, up to the first that is blamed for a FAULT. */
     private static final class Tokens {
         static final int END = 0;
         static final int WORD = 1;
@@ -1423,6 +1452,8 @@ public final class RoofRegatta {
         int start;
         int next;
         int sort;
+        int blamed;
+        int place;
 
         Tokens(byte[] text) {
             this.text = text;
@@ -1431,28 +1462,32 @@ public final class RoofRegatta {
         void begin(int length) {
             end = Math.min(length, text.length);
             next = 0;
+            blamed = 0;
+            place = NONE;
             step();
         }
 
-        void step() {
-            start = next;
-            while (start < end && text[start] == ' ') {
-                start++;
-            }
-            next = start;
-            if (start >= end) {
-                sort = END;
-                return;
-            }
-            sort = sortOf(text[start]);
-            next++;
-            if (sort == WORD || sort == WHOLE) {
-                takeRun();
+        /** The first FAULT stands: what is found behind it, at one place too, has a greater number. */
+        void blame(int why) {
+            if (blamed == 0) {
+                blamed = why;
+                place = start;
             }
         }
 
-        private void takeRun() {
-            while (next < end && sortOf(text[next]) == sort) {
+        void step() {
+            if (blamed != 0) {
+                return;
+            }
+            while (next < end && text[next] == ' ') {
+                next++;
+            }
+            start = next;
+            sort = start < end ? sortOf(text[start]) : END;
+            if (sort == PARTING) {
+                next++;
+            }
+            while (next < end && (sort == WORD || sort == WHOLE) && sortOf(text[next]) == sort) {
                 next++;
             }
             if (next - start > (sort == WORD ? 8 : 3)) {
@@ -1550,8 +1585,6 @@ public final class RoofRegatta {
         final Told told = new Told();
         final Race start = new Race(told);
         boolean begun;
-        int blamed;
-        int place;
 
         Reader(byte[] text) {
             token = new Tokens(text);
@@ -1562,25 +1595,16 @@ public final class RoofRegatta {
             start.clear();
             names.count = 0;
             begun = false;
-            blamed = 0;
-            place = NONE;
             token.begin(length);
             readLine();
-            for (int i = 0; i < length && blamed == 0 && token.sort == Tokens.PARTING; i++) {
+            for (int i = 0; i < length && token.blamed == 0 && token.sort == Tokens.PARTING; i++) {
                 token.step();
                 readLine();
             }
             if (token.sort != Tokens.END) {
-                blame(FORM);
+                token.blame(FORM);
             } else if (told.sizes[HOUSES] == 0) {
-                blame(LACKS);
-            }
-        }
-
-        private void blame(int why) {
-            if (blamed == 0) {
-                blamed = why;
-                place = token.start;
+                token.blame(LACKS);
             }
         }
 
@@ -1588,10 +1612,10 @@ public final class RoofRegatta {
             int line = sortOfLine();
             int why = faultOfLine(line);
             if (why != 0) {
-                blame(why);
+                token.blame(why);
                 return;
             }
-            step();
+            token.step();
             switch (line) {
                 case REGATTA_LINE: readRegatta(); break;
                 case BENDS: readBend(); break;
@@ -1657,20 +1681,26 @@ public final class RoofRegatta {
 
         private void readRegatta() {
             begun = true;
-            told.sizes[WATER] = numberAfter("water", 1, MOST_WATER);
-            told.sizes[BRIDGE] = numberAfter("bridge", 1, 6);
-            told.sizes[STOREY] = numberAfter("storey", 0, 30);
-            told.sizes[RAIN] = numberAfter("rain", 0, 100);
-            told.sizes[BY] = numberAfter("by", 0, 9);
+            readWord("water");
+            told.sizes[WATER] = readWhole(1, MOST_WATER);
+            readWord("bridge");
+            told.sizes[BRIDGE] = readWhole(1, 6);
+            readWord("storey");
+            told.sizes[STOREY] = readWhole(0, 30);
+            readWord("rain");
+            told.sizes[RAIN] = readWhole(0, 100);
+            readWord("by");
+            told.sizes[BY] = readWhole(0, 9);
             start.water = told.sizes[WATER];
         }
 
         private void readBend() {
             tellName(BENDS);
-            int length = numberAfter("long", 1, 30);
+            readWord("long");
+            int length = readWhole(1, 30);
             int inside = readSide();
             int k = told.sizes[BENDS];
-            if (blamed == 0 && k < MOST_BENDS) {
+            if (token.blamed == 0 && k < MOST_BENDS) {
                 told.lengths[k] = length;
                 told.insides[k] = inside;
                 told.sizes[BENDS]++;
@@ -1681,10 +1711,12 @@ public final class RoofRegatta {
             tellName(HOUSES);
             int kind = readKind();
             int lane = readSide();
-            int tiles = numberAfter("tiles", 0, 50);
-            int storeys = numberAfter("storeys", 1, 6);
+            readWord("tiles");
+            int tiles = readWhole(0, 50);
+            readWord("storeys");
+            int storeys = readWhole(1, 6);
             int h = told.sizes[HOUSES];
-            if (blamed == 0 && h < MOST_HOUSES) {
+            if (token.blamed == 0 && h < MOST_HOUSES) {
                 told.kinds[h] = kind;
                 told.tiles[h] = tiles;
                 told.storeys[h] = storeys;
@@ -1695,10 +1727,12 @@ public final class RoofRegatta {
 
         private void readLodger() {
             tellName(LODGERS);
-            int weighs = numberAfter("weighs", 0, 30);
-            int rows = numberAfter("rows", 0, 9);
+            readWord("weighs");
+            int weighs = readWhole(0, 30);
+            readWord("rows");
+            int rows = readWhole(0, 9);
             int l = told.sizes[LODGERS];
-            if (blamed == 0 && l < MOST_LODGERS) {
+            if (token.blamed == 0 && l < MOST_LODGERS) {
                 told.weighs[l] = weighs;
                 told.rows[l] = rows;
                 told.sizes[LODGERS]++;
@@ -1708,29 +1742,29 @@ public final class RoofRegatta {
         private void readAboard() {
             int l = numberOfName(LODGERS);
             if (start.placeOf(l) != ASHORE) {
-                blame(AGAIN);
+                token.blame(AGAIN);
             }
-            step();
+            token.step();
             int h = numberOfName(HOUSES);
             if (!start.hasRoom(h)) {
-                blame(CROWDED);
+                token.blame(CROWDED);
             }
-            step();
-            if (blamed == 0) {
+            token.step();
+            if (token.blamed == 0) {
                 start.put(l, h);
             }
         }
 
         private void readFriend() {
             int l = numberOfName(LODGERS);
-            step();
+            token.step();
             int other = numberOfName(LODGERS);
             if (l == other || (told.friendsOf(l) >> other & 1) == 1) {
-                blame(AGAIN);
+                token.blame(AGAIN);
             }
-            step();
+            token.step();
             int i = told.sizes[FRIENDS];
-            if (blamed == 0 && i < MOST_FRIENDS) {
+            if (token.blamed == 0 && i < MOST_FRIENDS) {
                 told.pairs[i] = 1 << l | 1 << other;
                 told.sizes[FRIENDS]++;
             }
@@ -1739,7 +1773,7 @@ public final class RoofRegatta {
         private void readPrize() {
             int worth = readWhole(0, 99);
             int i = told.sizes[PRIZES];
-            if (blamed == 0 && i < MOST_PRIZES) {
+            if (token.blamed == 0 && i < MOST_PRIZES) {
                 told.prizes[i] = worth;
                 told.sizes[PRIZES]++;
             }
@@ -1747,16 +1781,16 @@ public final class RoofRegatta {
 
         private void readSaw() {
             int h = numberOfName(HOUSES);
-            step();
+            token.step();
             int other = numberOfName(HOUSES);
             if (h == other) {
-                blame(AGAIN);
+                token.blame(AGAIN);
             }
-            step();
+            token.step();
             int k = numberOfName(BENDS);
-            step();
+            token.step();
             int i = told.sizes[SEEN];
-            if (blamed == 0 && i < MOST_SEEN) {
+            if (token.blamed == 0 && i < MOST_SEEN) {
                 told.sawFirst[i] = h;
                 told.sawSecond[i] = other;
                 told.sawBend[i] = k;
@@ -1764,38 +1798,31 @@ public final class RoofRegatta {
             }
         }
 
-        private void step() {
-            if (blamed == 0) {
-                token.step();
-            }
-        }
-
-        private int numberAfter(String word, int least, int most) {
+        private void readWord(String word) {
             if (!token.is(word)) {
-                blame(FORM);
+                token.blame(FORM);
             }
-            step();
-            return readWhole(least, most);
+            token.step();
         }
 
         private int readWhole(int least, int most) {
             if (token.sort != Tokens.WHOLE) {
-                blame(FORM);
+                token.blame(FORM);
             }
             int value = token.value();
             if (value < least || value > most) {
-                blame(BOUNDS);
+                token.blame(BOUNDS);
             }
-            step();
+            token.step();
             return value;
         }
 
         private int readSide() {
             int side = token.is("right") ? RIGHT : LEFT;
             if (side == LEFT && !token.is("left")) {
-                blame(FORM);
+                token.blame(FORM);
             }
-            step();
+            token.step();
             return side;
         }
 
@@ -1808,37 +1835,33 @@ public final class RoofRegatta {
             } else if (token.is("pub")) {
                 kind = PUB;
             } else if (!token.is("cottage")) {
-                blame(FORM);
+                token.blame(FORM);
             }
-            step();
+            token.step();
             return kind;
         }
 
-        private boolean isName() {
-            return token.sort == Tokens.WORD && sortOfLine() == NONE;
-        }
-
         private void tellName(int sort) {
-            if (!isName()) {
-                blame(FORM);
+            if (token.sort != Tokens.WORD || sortOfLine() != NONE) {
+                token.blame(FORM);
             }
             if (names.find(token) != NONE) {
-                blame(AGAIN);
+                token.blame(AGAIN);
             }
-            if (blamed == 0) {
+            if (token.blamed == 0) {
                 names.add(token, sort, told.sizes[sort]);
             }
-            step();
+            token.step();
         }
 
         /** Does not step, for the NAME may have a further FAULT; 0, which is a safe number, with one. */
         private int numberOfName(int sort) {
-            if (!isName()) {
-                blame(FORM);
+            if (token.sort != Tokens.WORD || sortOfLine() != NONE) {
+                token.blame(FORM);
             }
             int found = names.find(token);
             if (found == NONE || names.sorts[found] != sort) {
-                blame(UNTOLD);
+                token.blame(UNTOLD);
                 return 0;
             }
             return names.numbers[found];
