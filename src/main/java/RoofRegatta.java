@@ -71,7 +71,7 @@ public final class RoofRegatta {
     private final Standing standing = new Standing();
     private final Reader reader = new Reader(tape);
     private final Loads loads = new Loads(now, trial, standing);
-    private final Fires fires = new Fires(now, trial);
+    private final Fires fireSets = new Fires(now, trial);
     private final Rain rain = new Rain(now, trial, standing);
     private final Kept kept = new Kept(now);
     private int lastFault;
@@ -389,48 +389,48 @@ public final class RoofRegatta {
         if (!isTold()) {
             return refused(NO_SUCH);
         }
-        fires.find();
-        return granted(fires.count);
+        fireSets.find();
+        return granted(fireSets.count);
     }
 
     public int fireAt(int i) {
         if (!isTold()) {
             return refused(NO_SUCH);
         }
-        fires.find();
-        return i >= 0 && i < fires.count ? granted(fires.sets[i]) : refused(NO_SUCH);
+        fireSets.find();
+        return i >= 0 && i < fireSets.count ? granted(fireSets.sets[i]) : refused(NO_SUCH);
     }
 
     public int could() {
         if (!isTold()) {
             return refused(NO_SUCH);
         }
-        fires.find();
-        return granted(fires.inSome());
+        fireSets.find();
+        return granted(fireSets.inSome());
     }
 
     public int surely() {
         if (!isTold()) {
             return refused(NO_SUCH);
         }
-        fires.find();
-        return granted(fires.inAll());
+        fireSets.find();
+        return granted(fireSets.inAll());
     }
 
     public int ask() {
         if (!isTold()) {
             return refused(NO_SUCH);
         }
-        fires.find();
-        return granted(fires.count == 0 ? NOT_ANY : fires.bestToAsk());
+        fireSets.find();
+        return granted(fireSets.count == 0 ? NOT_ANY : fireSets.bestToAsk());
     }
 
     public int askLeaves() {
         if (!isTold()) {
             return refused(NO_SUCH);
         }
-        fires.find();
-        return granted(fires.count == 0 ? NOT_ANY : fires.leftBy(fires.bestToAsk()));
+        fireSets.find();
+        return granted(fireSets.count == 0 ? NOT_ANY : fireSets.leftBy(fireSets.bestToAsk()));
     }
 
     public int judge() {

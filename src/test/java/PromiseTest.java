@@ -1,3 +1,4 @@
+import java.lang.reflect.Method;
 import java.util.NoSuchElementException;
 
 /** Each promise by hand: ordinary answers, the edges that the document names, wrong inputs. */
@@ -42,6 +43,7 @@ public final class PromiseTest {
         images();
         ashoreByNumber();
         sizes();
+        troubleEnds();
         BENCH.end();
     }
 
@@ -294,6 +296,12 @@ public final class PromiseTest {
         due("waterFor(3, 24)", x.waterFor(3, 24), 10);
         due("waterFor(3, 11)", x.waterFor(3, 11), -2);
         due("waterFor(3, 240)", x.waterFor(3, 240), 1);
+        due("waterFor(3, 13)", x.waterFor(3, 13), 19);
+        RoofRegatta most = Bench.told("regatta water 1 bridge 1 storey 0 rain 0 by 0;bend k long 20 left;"
+            + "house a pub left tiles 0 storeys 1");
+        due("the most water", most.waterFor(0, 10), 20);
+        due("more water than there is", most.waterFor(0, 9), -2);
+        due("waterFor(3, 12)", x.waterFor(3, 12), -2);
         due("bestSwap(3)", x.bestSwap(3), -2);
         due("bestLane(0)", x.bestLane(0), 1);
         due("bestLane(3), alike", x.bestLane(3), 0);
@@ -326,6 +334,12 @@ public final class PromiseTest {
         x.light(0, true);
         due("judge()", x.judge(), -2);
         due("fires() whatever is lit now", x.fires(), 2);
+        RoofRegatta one = Bench.told(ALIKE + ";saw a c k;saw c b k");
+        due("fires()", one.fires(), 1);
+        due("could()", one.could(), 1);
+        due("surely()", one.surely(), 1);
+        due("ask()", one.ask(), 0);
+        due("askLeaves()", one.askLeaves(), 1);
         RoofRegatta never = Bench.told(ALIKE + ";saw b a k");
         due("fires()", never.fires(), 0);
         due("could()", never.could(), 0);
@@ -374,6 +388,7 @@ public final class PromiseTest {
         due("wins(0, 5624, 2)", x.wins(0, 5624, 2), 0);
         due("wins(0, 74, 1)", x.wins(0, 74, 1), 1);
         due("wins(0, 0, 0)", x.wins(0, 0, 0), 0);
+        due("record(65536, 1)", x.record(65536, 1), 75);
         due("wins of all", x.wins(0, 65536, 60) + x.wins(1, 65536, 60), 60);
         due("record(0, 1)", x.record(0, 1), 75);
         due("record(0, 2)", x.record(0, 2), 50);
@@ -473,8 +488,9 @@ public final class PromiseTest {
             x.raise(water == 10 ? 20 : water);
         }
         due("16 are kept", x.size(11), 16);
-        for (int i = 0; i < 16; i++) {
+        for (int water = 17; water >= 2; water--) {
             BENCH.due("undo()", x.undo(), true);
+            due("water one act before", x.size(0), water == 10 ? 20 : water);
         }
         due("the two before are lost", x.size(0), 2);
         BENCH.refused("undo()", x, x.undo(), 6);
@@ -530,6 +546,59 @@ public final class PromiseTest {
         due("led(1)", x.led(1), 2);
         throwsNone(x, 2);
         due("led does not touch trouble", x.trouble(), 2);
+    }
+
+    private static final String[] GOOD_CALLS = {
+        "house", "lodger", "bend", "time", "soFar", "total", "loses", "rank", "ranked", "out", "prize", "leader", "full",
+        "passes", "fastest", "storey", "together", "bestRank", "loadOf", "loadMoves", "leastTotal", "friendly",
+        "friendlyOf", "leastFor", "toMove", "waterFor", "bestSwap", "bestLane", "fires", "fireAt", "could", "surely", "ask",
+        "askLeaves", "judge", "odds", "mean", "hopes", "wins", "weir", "rests", "rest", "cross"};
+
+    /** Each call of which a number is told ends the TROUBLE before it, all its numbers being 0 and 0 being good. */
+    private static void troubleEnds() {
+        RoofRegatta x = Bench.told(RIVER);
+        for (String name : GOOD_CALLS) {
+            x.total(-1);
+            due("trouble() ahead of " + name, x.trouble(), 1);
+            callWithZeros(x, name);
+            due("trouble() behind " + name, x.trouble(), 0);
+        }
+        for (int what = 0; what < 8; what++) {
+            x.total(-1);
+            x.house(0, what);
+            due("trouble() behind house of " + what, x.trouble(), 0);
+        }
+        x.total(-1);
+        x.ahead(0, 1);
+        due("trouble() behind ahead", x.trouble(), 0);
+        x.total(-1);
+        x.record(0, 1);
+        due("trouble() behind record", x.trouble(), 0);
+        x.total(-1);
+        x.waterFor(0, 30000);
+        due("trouble() behind waterFor", x.trouble(), 0);
+        x.total(-1);
+        x.image();
+        due("trouble() behind image", x.trouble(), 0);
+        x.total(-1);
+        x.board(0, 0);
+        due("trouble() behind board", x.trouble(), 0);
+    }
+
+    private static void callWithZeros(RoofRegatta x, String name) {
+        for (Method method : RoofRegatta.class.getDeclaredMethods()) {
+            if (method.getName().equals(name)) {
+                Object[] zeros = new Object[method.getParameterCount()];
+                for (int i = 0; i < zeros.length; i++) {
+                    zeros[i] = method.getParameterTypes()[i] == boolean.class ? (Object) false : (Object) 0;
+                }
+                try {
+                    method.invoke(x, zeros);
+                } catch (ReflectiveOperationException thrown) {
+                    throw new IllegalStateException(name, thrown);
+                }
+            }
+        }
     }
 
     private static void sizes() {

@@ -88,6 +88,9 @@ public final class TextTest {
         faultyLast(1, "", "7");
         faultyLast(1, "", "regattas");
         faultyLast(1, "", "regattaaa");
+        faultyLast(1, "", "megatta");
+        faultyLast(1, HEAD, "raw");
+        faultyLast(1, HEAD, "sawn");
         faultyLast(1, "", "Regatta");
         faultyLast(1, "regatta ", "bridge");
         faultyLast(1, "regatta water", "");
