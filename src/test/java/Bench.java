@@ -1,13 +1,23 @@
+import java.util.NoSuchElementException;
+
 /** What the tests share: telling a text, and counting the answers that are not as due. */
 final class Bench {
+    private static final int LED_THROWS = -1000;
+
+    private String about = "";
     private int asked;
     private int wrong;
+
+    /** What is asked from now on stands under this head. */
+    void begin(String head) {
+        about = head + ": ";
+    }
 
     void due(String call, long got, long want) {
         asked++;
         if (got != want) {
             wrong++;
-            System.out.println(call + " answered " + got + ", due is " + want);
+            System.out.println(about + call + " answered " + got + ", due is " + want);
         }
     }
 
@@ -26,6 +36,44 @@ final class Bench {
 
     void none(String call, RoofRegatta x, long got, int why) {
         refused(call, x, got, -1, why);
+    }
+
+    /** A call that was not refused: its answer, and no TROUBLE. */
+    void granted(String call, RoofRegatta x, long got, long want) {
+        refused(call, x, got, want, 0);
+    }
+
+    void granted(String call, RoofRegatta x, boolean got) {
+        refused(call, x, got ? 1 : 0, 1, 0);
+    }
+
+    void ledThrows(RoofRegatta x, int i) {
+        int got = LED_THROWS;
+        try {
+            got = x.led(i);
+        } catch (NoSuchElementException none) {
+            got = LED_THROWS;
+        }
+        due("led(" + i + ") throws (" + LED_THROWS + ")", got, LED_THROWS);
+    }
+
+    void faulty(int fault, int where, String text) {
+        RoofRegatta x = new RoofRegatta();
+        none("regatta of '" + text + "'", x, tell(x, text), 4);
+        due("fault of '" + text + "'", x.fault(), fault);
+        due("where of '" + text + "'", x.where(), where);
+    }
+
+    /** The FAULT is at the last token of the text. */
+    void faultyLast(int fault, String before, String last) {
+        faulty(fault, before.length(), before + last);
+    }
+
+    void good(int houses, String text) {
+        RoofRegatta x = new RoofRegatta();
+        granted("regatta of '" + text + "'", x, tell(x, text), houses);
+        due("fault of '" + text + "'", x.fault(), 0);
+        due("where of '" + text + "'", x.where(), -1);
     }
 
     /** Feeds a text, blanks behind it up to a whole feed(). */

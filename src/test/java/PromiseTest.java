@@ -1,5 +1,4 @@
 import java.lang.reflect.Method;
-import java.util.NoSuchElementException;
 
 /** Each promise by hand: ordinary answers, the edges that the document names, wrong inputs. */
 public final class PromiseTest {
@@ -524,27 +523,17 @@ public final class PromiseTest {
         due("the others are where they were", x.house(1, 6), 3);
     }
 
-    private static void throwsNone(RoofRegatta x, int i) {
-        boolean thrown = false;
-        try {
-            x.led(i);
-        } catch (NoSuchElementException none) {
-            thrown = true;
-        }
-        BENCH.due("led(" + i + ") throws", thrown, true);
-    }
-
     private static void ashoreByNumber() {
-        throwsNone(new RoofRegatta(), 0);
+        BENCH.ledThrows(new RoofRegatta(), 0);
         RoofRegatta x = Bench.told(RIVER);
         due("led(0)", x.led(0), 2);
-        throwsNone(x, 1);
-        throwsNone(x, -1);
+        BENCH.ledThrows(x, 1);
+        BENCH.ledThrows(x, -1);
         x.ashore(0);
         x.raise(21);
         due("led(0)", x.led(0), 0);
         due("led(1)", x.led(1), 2);
-        throwsNone(x, 2);
+        BENCH.ledThrows(x, 2);
         due("led does not touch trouble", x.trouble(), 2);
     }
 

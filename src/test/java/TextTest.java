@@ -10,22 +10,15 @@ public final class TextTest {
     private static final Bench BENCH = new Bench();
 
     private static void faulty(int fault, int where, String text) {
-        RoofRegatta x = new RoofRegatta();
-        BENCH.none("regatta of '" + text + "'", x, Bench.tell(x, text), 4);
-        BENCH.due("fault of '" + text + "'", x.fault(), fault);
-        BENCH.due("where of '" + text + "'", x.where(), where);
+        BENCH.faulty(fault, where, text);
     }
 
-    /** The FAULT is at the last token of the text. */
     private static void faultyLast(int fault, String before, String last) {
-        faulty(fault, before.length(), before + last);
+        BENCH.faultyLast(fault, before, last);
     }
 
     private static void good(int houses, String text) {
-        RoofRegatta x = new RoofRegatta();
-        BENCH.due("regatta of '" + text + "'", Bench.tell(x, text), houses);
-        BENCH.due("fault of '" + text + "'", x.fault(), 0);
-        BENCH.due("where of '" + text + "'", x.where(), -1);
+        BENCH.good(houses, text);
     }
 
     public static void main(String[] args) {
