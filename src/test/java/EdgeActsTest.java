@@ -268,6 +268,33 @@ public final class EdgeActsTest {
         standsAsTold(x);
     }
 
+    private static void p55_undoneDoneAnewAndUndone() {
+        RoofRegatta x = two();
+        x.light(0, true);
+        x.light(1, true);
+        x.cross(0);
+        x.raise(20);
+        x.undo();
+        stands(x, 10, 0, 1, 1, 0, 1, 1);
+        x.light(0, false);
+        x.light(1, false);
+        x.cross(0);
+        x.raise(1);
+        x.cross(1);
+        x.undo();
+        stands(x, 1, 0, 0, 0, 0, 1, 0);
+        x.undo();
+        standsAsTold(x);
+        x.undo();
+        stands(x, 10, 0, 1, 0, 0, 1, 0);
+        for (int water = 11; water <= 20; water++) {
+            x.raise(water);
+            x.cross(1);
+            x.undo();
+            stands(x, water, 0, 1, 0, 0, 1, 0);
+        }
+    }
+
     private static void raised(RoofRegatta x, int acts) {
         for (int i = 1; i <= acts; i++) {
             x.raise(i % 20 + 1);

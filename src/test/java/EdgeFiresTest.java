@@ -152,6 +152,11 @@ public final class EdgeFiresTest {
         BENCH.granted("could()", x, x.could(), 0);
     }
 
+    private static void p37_oneSet() {
+        RoofRegatta x = Bench.told(pubs(0, 0) + ";saw a b k");
+        BENCH.granted("could()", x, x.could(), 1);
+    }
+
     private static void p37_inSome() {
         RoofRegatta x = Bench.told(pubs(0, 0, 0, 0) + ";saw b a k");
         BENCH.granted("could()", x, x.could(), 14);
@@ -220,6 +225,12 @@ public final class EdgeFiresTest {
         asks(Bench.told(pubs(0, 1) + ";saw a b k"), 0, 2);
     }
 
+    private static void p39_theSecond() {
+        RoofRegatta x = Bench.told(pubs(0, 0, 0) + ";saw a c k");
+        sets(x, 1, 3);
+        asks(x, 1, 1);
+    }
+
     private static void p39_theLast() {
         asks(Bench.told(pubs(0, 0, 0, 0) + ";saw a c k;saw b c k"), 3, 1);
     }
@@ -227,6 +238,13 @@ public final class EdgeFiresTest {
     private static void p39_atMostNotAtLeast() {
         // 0, 1, 3, 4, 5, 7: a is in four, b in two, c in three of six
         asks(Bench.told(pubs(0, 1, 9) + ";saw a b k"), 2, 3);
+    }
+
+    private static void p40_askedByItself() {
+        RoofRegatta x = Bench.told(pubs(0, 0, 0, 0));
+        BENCH.granted("askLeaves()", x, x.askLeaves(), 8);
+        RoofRegatta one = Bench.told(pubs(0, 0) + ";saw a b k");
+        BENCH.granted("askLeaves()", one, one.askLeaves(), 1);
     }
 
     private static void p40_oneHouse() {

@@ -197,6 +197,16 @@ public final class EdgeLoadsTest {
         }
     }
 
+    private static void p26_askedByItself() {
+        RoofRegatta x = Bench.told(pubs(1, 1, 2) + weighing(2));
+        BENCH.granted("loadMoves(1)", x, x.loadMoves(1), 1);
+        BENCH.granted("loadMoves(0)", x, x.loadMoves(0), 0);
+        x = Bench.told(pubs(1, 1, 2) + weighing(2));
+        BENCH.granted("loadOf(1, 0)", x, x.loadOf(1, 0), 0);
+        x.board(0, 0);
+        BENCH.granted("loadMoves(1)", x, x.loadMoves(1), 0);
+    }
+
     private static void p26_noneIfItCannotBeBetter() {
         RoofRegatta x = Bench.told(pubs(5, 0, 50) + weighing(1, 1, 1, 1, 1) + ";aboard p b;aboard q b;aboard r a");
         load(x, 0, 0, 0, 1, 1, 0, -2, -2);
@@ -274,6 +284,12 @@ public final class EdgeLoadsTest {
         RoofRegatta x = Bench.told(pubs(6, 0, 0) + weighing(1, 1, 1, 1, 1)
             + ";friend p q;friend p r;friend p s;friend p t;friend q r;friend q s");
         friends(x, 6, 0, 0, 0, 0, 0);
+    }
+
+    private static void p28_fourHouses() {
+        RoofRegatta x = Bench.told(pubs(1, 0, 0, 0) + ";house d pub left tiles 0 storeys 2" + weighing(1, 1, 1) + ";friend p r");
+        due("together()", x.together(), 0);
+        friends(x, 1, 3, -2, 3);
     }
 
     private static void p28_twoHouses() {

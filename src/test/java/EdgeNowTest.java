@@ -877,6 +877,12 @@ public final class EdgeNowTest {
         BENCH.granted("both aboard", x, x.together(), 1);
     }
 
+    private static void p23_aboardTheLastOfFourHouses() {
+        RoofRegatta x = Bench.told(pubs(0, 0, 0) + ";house d pub left tiles 0 storeys 2;lodger p weighs 0 rows 0;"
+            + "lodger q weighs 0 rows 0;friend p q;aboard p d;aboard q d");
+        BENCH.granted("together()", x, x.together(), 1);
+    }
+
     private static void p23_inUnlikeHousesTheyAreNot() {
         RoofRegatta x = Bench.told(pubs(0, 0) + ";lodger p weighs 0 rows 0;lodger q weighs 0 rows 0;friend p q;aboard p a;aboard q b");
         BENCH.granted("together()", x, x.together(), 0);

@@ -32,17 +32,21 @@ public final class EdgeRainTest {
         return Bench.told(text + ";house a pub left tiles 0 storeys 1");
     }
 
+    /** Each ends the TROUBLE ahead of it. */
     private static void odds(RoofRegatta x, int h, int r, long upper, long lower) {
+        x.total(-1);
         BENCH.granted("odds(" + h + ", " + r + ", false)", x, x.odds(h, r, false), upper);
         BENCH.granted("odds(" + h + ", " + r + ", true)", x, x.odds(h, r, true), lower);
     }
 
     private static void mean(RoofRegatta x, int h, long upper, long lower) {
+        x.total(-1);
         BENCH.granted("mean(" + h + ", false)", x, x.mean(h, false), upper);
         BENCH.granted("mean(" + h + ", true)", x, x.mean(h, true), lower);
     }
 
     private static void hopes(RoofRegatta x, int h, long upper, long lower) {
+        x.total(-1);
         BENCH.granted("hopes(" + h + ", false)", x, x.hopes(h, false), upper);
         BENCH.granted("hopes(" + h + ", true)", x, x.hopes(h, true), lower);
     }
@@ -162,6 +166,9 @@ public final class EdgeRainTest {
     private static void p42_inLowestTerms() {
         odds(showers(1, 50, ""), 0, 0, 1, 2);
         odds(showers(1, 20, ""), 0, 0, 1, 5);
+        odds(showers(1, 2, ""), 0, 0, 1, 50);
+        odds(showers(1, 98, ""), 0, 0, 49, 50);
+        odds(showers(1, 5, ""), 0, 0, 1, 20);
         odds(showers(1, 75, ""), 0, 0, 3, 4);
         odds(showers(1, 99, ""), 0, 0, 99, 100);
     }

@@ -362,6 +362,18 @@ public final class EdgeTextTest {
         }
     }
 
+    private static void t1_form_aWordOneLetterOff() {
+        for (String word : LINE_WORDS) {
+            BENCH.faultyLast(1, ALL, "z" + word.substring(1));
+            BENCH.faultyLast(1, ALL, word.substring(0, word.length() - 1) + "z");
+            BENCH.faultyLast(1, ALL, word.substring(1));
+            BENCH.faultyLast(1, ALL, word.substring(0, word.length() - 1));
+            BENCH.faultyLast(1, ALL, word + "z");
+        }
+        BENCH.faultyLast(1, "regatta ", "hater");
+        BENCH.faultyLast(1, "regatta ", "watef");
+    }
+
     private static void t1_form_noSuchKindOrSide() {
         for (String word : new String[] {"left", "pubs", "hut", "house", "villas"}) {
             BENCH.faultyLast(1, HEAD + "house a ", word);
@@ -686,6 +698,28 @@ public final class EdgeTextTest {
         due("size(12)", x.size(12), 0);
         BENCH.refused("undo()", x, x.undo(), 6);
         BENCH.refused("back(0)", x, x.back(0), 1);
+    }
+
+    private static void p03_nobodyOfTheOneBeforeIsAboard() {
+        String houses = "";
+        String lodgers = "";
+        String aboard = "";
+        for (int h = 0; h < 4; h++) {
+            char house = (char) ('a' + h);
+            char lodger = (char) ('p' + h);
+            houses += ";house " + house + " cottage right tiles 0 storeys 1";
+            lodgers += ";lodger " + lodger + " weighs 0 rows 0";
+            aboard += ";aboard " + lodger + " " + house;
+        }
+        String head = HEAD.substring(0, HEAD.length() - 1);
+        RoofRegatta x = Bench.told(head + houses + lodgers + aboard);
+        due("full()", x.full(), 15);
+        Bench.tell(x, head + houses.replace("right", "left") + lodgers);
+        for (int h = 0; h < 4; h++) {
+            due("house(" + h + ", 6)", x.house(h, 6), 0);
+            due("house(" + h + ", 3)", x.house(h, 3), 0);
+            due("lodger(" + h + ", 2)", x.lodger(h, 2), -2);
+        }
     }
 
     private static void p03_nothingOfTheOneBeforeIsLeft() {
