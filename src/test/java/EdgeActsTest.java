@@ -1,8 +1,16 @@
+import java.lang.reflect.InvocationTargetException;
+import java.lang.reflect.Method;
+import java.lang.reflect.Modifier;
+import java.util.ArrayList;
+import java.util.List;
+
 /** Promises 50 to 60, and what the document says of ACTS under III and TROUBLE under IV: each boundary in a case of its own. */
 public final class EdgeActsTest {
     private static final String TWO = "regatta water 10 bridge 2 storey 3 rain 4 by 5;bend k long 10 left;"
         + "house a pub left tiles 0 storeys 1;house b cottage right tiles 0 storeys 2;"
         + "lodger p weighs 0 rows 0;lodger q weighs 0 rows 0;lodger r weighs 0 rows 0;lodger s weighs 0 rows 0";
+    private static final List<String> CHANGING = List.of("feed", "regatta", "board", "ashore", "light", "cross", "raise", "undo",
+        "image", "back", "trouble", "where");
     private static final int[] WRONG = {-1, -2, 4, 5, 31, 32, 64, Integer.MAX_VALUE, Integer.MIN_VALUE};
 
     private static final Bench BENCH = new Bench();
@@ -30,6 +38,65 @@ public final class EdgeActsTest {
 
     private static void standsAsTold(RoofRegatta x) {
         stands(x, 10, 0, 0, 0, 0, 1, 0);
+    }
+
+    // ---- questions
+
+    /** All is told that makes a difference, should a question leave its rain, water, fire, lane or load behind. */
+    private static RoofRegatta rainy() {
+        RoofRegatta x = Bench.told("regatta water 3 bridge 1 storey 4 rain 60 by 7;bend k long 9 left;bend m long 14 right;"
+            + "house a cottage right tiles 7 storeys 2;house b terrace left tiles 9 storeys 3;house c villa left tiles 15 storeys 1;"
+            + "lodger p weighs 3 rows 4;lodger q weighs 8 rows 1;lodger r weighs 2 rows 2;lodger s weighs 5 rows 5;"
+            + "aboard p a;aboard q b;aboard r b;friend p q;friend r s;friend q s;prize 9;prize 4;saw a b k;saw a c m");
+        x.light(1, true);
+        return x;
+    }
+
+    private static List<Method> questions() {
+        List<Method> found = new ArrayList<>();
+        for (Method method : RoofRegatta.class.getDeclaredMethods()) {
+            if (Modifier.isPublic(method.getModifiers()) && !CHANGING.contains(method.getName())) {
+                found.add(method);
+            }
+        }
+        return found;
+    }
+
+    /** Each with numbers for which it is not refused. */
+    private static long ask(RoofRegatta x, Method question) throws IllegalAccessException {
+        Class<?>[] types = question.getParameterTypes();
+        Object[] numbers = new Object[types.length];
+        for (int i = 0; i < types.length; i++) {
+            numbers[i] = types[i] == boolean.class ? (Object) false : (Object) (i == 0 ? 1 : 0);
+        }
+        String name = question.getName();
+        if (name.equals("wins") || name.equals("record")) {
+            numbers[numbers.length - 1] = 3;
+        } else if (name.equals("leastFor") || name.equals("waterFor")) {
+            numbers[1] = 70;
+        } else if (name.equals("led")) {
+            numbers[0] = 0;
+        }
+        try {
+            return ((Number) question.invoke(x, numbers)).longValue();
+        } catch (InvocationTargetException thrown) {
+            throw new IllegalStateException(name, thrown.getCause());
+        }
+    }
+
+    private static void h_noQuestionChangesAnAnswer() throws IllegalAccessException {
+        List<Method> questions = questions();
+        due("questions", questions.size(), 47);
+        for (Method first : questions) {
+            RoofRegatta x = rainy();
+            for (Method second : questions) {
+                long want = ask(rainy(), second);
+                ask(x, first);
+                BENCH.granted(second.getName() + " behind " + first.getName(), x, ask(x, second), want);
+            }
+            stands(x, 3, 1, 1, 0, 6, 0, 1);
+            due("size(11)", x.size(11), 1);
+        }
     }
 
     // ---- promise 50
